@@ -95,6 +95,7 @@ public final class CatWitness {
     private static final int MARKS_MOST = 3;
     private static final int SEEDS_MOST = 20;
     private static final int NO_SMELL_ASKED = 5;
+    private static final int ALL_SMELLS = 31;
 
     private Court now = new Court();
     private Court spare = new Court();
@@ -1879,21 +1880,31 @@ public final class CatWitness {
             unshown = 0;
             for (int fed = 0; fed <= FED_HERE; fed++) {
                 for (int warm = 0; warm <= WARM_MOST; warm++) {
-                    for (int smells = 0; smells <= setOfAll(court.countOf(SMELL)); smells++) {
-                        countOne(court.ruleFor(GUILTY, fed, warm, smells), 1);
-                        countOne(court.ruleFor(CLEAN, fed, warm, smells), 0);
-                    }
+                    countSmells(court, GUILTY, fed, warm);
+                    countSmells(court, CLEAN, fed, warm);
                 }
             }
         }
 
-        private void countOne(int rule, int isGuilty) {
-            if (rule == NONE) {
-                unshown++;
-            } else {
-                put(all, rule, cell(all, rule) + 1);
-                put(guilty, rule, cell(guilty, rule) + isGuilty);
+        /**
+         * All sets of SMELLS at once: a RULE that asks a SMELL which none ahead of it asked
+         * takes half of the sets that are left, one that asks none takes all.
+         */
+        private void countSmells(Court court, int guilt, int fed, int warm) {
+            int left = 1 << court.countOf(SMELL);
+            int asked = 0;
+            for (int r = 0; r < court.countOf(RULE) && left > 0; r++) {
+                Rule rule = court.ruleAt(r);
+                boolean asksAnew = rule.smell == NONE || !isIn(asked, rule.smell);
+                if (asksAnew && rule.bearsOn(guilt, fed, warm, ALL_SMELLS)) {
+                    int taken = rule.smell == NONE ? left : left / 2;
+                    asked |= rule.smell == NONE ? 0 : 1 << rule.smell;
+                    left -= taken;
+                    put(all, r, cell(all, r) + taken);
+                    put(guilty, r, cell(guilty, r) + (guilt == GUILTY ? taken : 0));
+                }
             }
+            unshown += left;
         }
     }
 
@@ -1959,16 +1970,22 @@ public final class CatWitness {
         static final int BEYOND = 7;
 
         int first = NOTHING;
+        int value = 0;
 
         int begin(Court court, int turns) {
             first = NOTHING;
+            int sum = 0;
+            for (int p = 0; p < court.countOf(PERSON); p++) {
+                sum += worth(court, p);
+            }
+            value = sum;
             return play(this, court, 0, turns, -BEYOND, BEYOND);
         }
 
         /** Alpha-beta: what can't change the value of the GAME is left out. */
         private static int play(Game game, Court court, int turn, int turns, int low, int high) {
             if (turn >= turns || turn >= TURNS_MOST) {
-                return balance(court);
+                return game.value;
             }
             boolean defends = turn % 2 == 0;
             int best = defends ? -BEYOND : BEYOND;
@@ -1978,15 +1995,19 @@ public final class CatWitness {
                 if (!canBe(court, move)) {
                     continue;
                 }
+                int ahead = game.value;
+                game.value -= worth(court, move / DEEDS);
                 change(court, move, 1);
-                int value = play(game, court, turn + 1, turns, least, most);
+                game.value += worth(court, move / DEEDS);
+                int end = play(game, court, turn + 1, turns, least, most);
                 change(court, move, -1);
-                if (defends ? value > best : value < best) {
-                    best = value;
+                game.value = ahead;
+                if (defends ? end > best : end < best) {
+                    best = end;
                     game.first = turn == 0 ? move : game.first;
                 }
-                least = defends ? Math.max(least, value) : least;
-                most = defends ? most : Math.min(most, value);
+                least = defends ? Math.max(least, end) : least;
+                most = defends ? most : Math.min(most, end);
             }
             return best;
         }
@@ -2014,13 +2035,10 @@ public final class CatWitness {
             }
         }
 
-        private static int balance(Court court) {
-            int sum = 0;
-            for (int p = 0; p < court.countOf(PERSON); p++) {
-                int meant = court.senseBefore(p, court.warm);
-                sum += meant == CLEAN ? 1 : meant == GUILTY ? -1 : 0;
-            }
-            return sum;
+        /** What one PERSON adds to the value; nobody, who does nothing, adds nothing. */
+        private static int worth(Court court, int person) {
+            int meant = court.has(PERSON, person) ? court.senseBefore(person, court.warm) : WHOEVER;
+            return meant == CLEAN ? 1 : meant == GUILTY ? -1 : 0;
         }
     }
 
