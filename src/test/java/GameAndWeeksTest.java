@@ -257,6 +257,12 @@ public final class GameAndWeeksTest {
         Check.gave(x, x.person(1, 0), 6);
         Check.gave(x, x.person(2, 0), 3);
         Check.gave(x, x.lived(0), 1);
+        // Alone, one is drawn as well: seed 1 draws 0 1, 0 0, 0 1.
+        x = Check.with("person ann;");
+        Check.weeks(x, "any; any; any;");
+        Check.gave(x, x.live(1), 3);
+        Check.gave(x, x.person(0, 0), 2);
+        Check.gave(x, x.lived(0), 1);
         // Without PEOPLE there is none, and it is MISSED.
         x = new CatWitness();
         Check.weeks(x, "any; any;");
@@ -344,6 +350,22 @@ public final class GameAndWeeksTest {
         Check.weeks(x, "");
         Check.gave(x, x.live(0), 0);
         lived(x, 0, 0, 0, 0, 0);
+        // Those who were FREE, HELD ahead of it count not; a stop is not MISSED.
+        x = Check.with(COURT);
+        x.term();
+        Check.gave(x, x.told(10), 1);
+        Check.weeks(x, "term; term; stop; night;");
+        Check.gave(x, x.live(0), 3);
+        lived(x, 0, 3, 1, 0, 0);
+        Check.weeks(x, "rub bob fish; night; term; stop;");
+        Check.gave(x, x.live(0), 4);
+        lived(x, 0, 1, 1, 0, 0);
+        Check.gave(x, x.told(9), 6);
+        x.blame(1, true);
+        x.appeal(1);
+        x.appeal(2);
+        Check.gave(x, x.live(0), 4);
+        lived(x, 1, 2, 1, 1, 0);
         // MISSED: feeding one with FED 99; not one with 98.
         x = Check.with("person a fed 98;");
         Check.weeks(x, "feed a 9; feed a 9; feed a 1; any; any;");

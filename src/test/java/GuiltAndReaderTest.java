@@ -128,6 +128,13 @@ public final class GuiltAndReaderTest {
         CatWitness z = new CatWitness();
         z.tray(0, 0, 0);
         Check.none(z, z.ask(0, 0, 0), 6);
+        // Only at WARM 0, only at 9.
+        Check.court(y, "sign a means clean; rule a guilty warm = 9; person p; person q;");
+        Check.gave(y, y.ask(0, 0, 0), 0);
+        Check.gave(y, y.ask(0, 0, 1), 9);
+        Check.court(y, "sign a means clean; rule a clean fed = 1 warm = 0; person p; person q fed 1;");
+        Check.gave(y, y.ask(0, 0, 0), 1);
+        Check.gave(y, y.ask(0, 0, 1), 0);
         // FED, SMELLS as they are: only the last one's guilt tells.
         CatWitness w = Check.with("smell s; sign a means clean; sign b means clean; rule a guilty fed > 3 warm = 7 smells s; rule b;"
             + " person p fed 4; person q smells s; person r fed 4 smells s;");
@@ -171,6 +178,10 @@ public final class GuiltAndReaderTest {
         Check.gave(y, y.least(0, 0), 20);
         Check.none(y, y.least(1, 0), 6);
         Check.gave(y, y.person(0, 0), 4);
+        // FED 99 at the most.
+        y = Check.with("sign x means clean; rule x fed > 99; person p fed 95; person q fed 99;");
+        Check.none(y, y.least(0, 0), 6);
+        Check.none(y, y.least(1, 0), 6);
     }
 
     static void promise42() {
@@ -208,8 +219,18 @@ public final class GuiltAndReaderTest {
         Check.none(x, x.reach(6), 1);
         Check.none(x, x.reach(-1), 1);
         CatWitness y = Check.with("smell a; smell b; smell d; smell e; smell f; sign c means clean; rule c smells f; rule c;");
-        Check.gave(y, y.reach(0), 6720);
-        Check.gave(y, y.reach(1), 6720);
+        for (int i = 0; i < 3; i++) {
+            Check.gave(y, y.reach(0), 6720);
+            Check.gave(y, y.reach(1), 6720);
+        }
+        // Halves of what is left; one SMELL asked again is none anew.
+        y = Check.with("smell a; smell b; smell d; sign c means clean; rule c smells a; rule c smells a; rule c guilty smells d;"
+            + " rule c smells b; rule c smells d; rule c warm < 1; rule c fed < 1 smells d; rule c;");
+        int[] halves = {1680, 0, 420, 630, 210, 42, 0, 378};
+        for (int r = 0; r < halves.length; r++) {
+            Check.gave(y, y.reach(r), halves[r]);
+        }
+        Check.gave(y, y.mute(), 0);
     }
 
     static void promise44() {
@@ -219,6 +240,8 @@ public final class GuiltAndReaderTest {
         Check.gave(x, x.idle(), 8);
         CatWitness y = new CatWitness();
         Check.gave(y, y.idle(), 0);
+        y = Check.with("sign c means clean; rule c fed > 20; rule c; rule c guilty;");
+        Check.gave(y, y.idle(), 5);
     }
 
     static void promise45() {
@@ -291,6 +314,8 @@ public final class GuiltAndReaderTest {
         Check.none(y, y.sworn(6), 6);
         CatWitness z = new CatWitness();
         Check.none(z, z.sworn(1), 6);
+        z = Check.with("reader a slips 1 votes 1; reader b slips 2 votes 1; reader c slips 1 votes 1;");
+        Check.gave(z, z.sworn(1), 1);
     }
 
     static void promise49() {

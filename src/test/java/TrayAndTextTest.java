@@ -80,8 +80,10 @@ public final class TrayAndTextTest {
         Check.none(x, x.tray(0, 0, 61), 1);
         Check.none(x, x.tray(0, 0, -1), 1);
         // One that is there already is a row of 0s anew.
+        x.write(0, 0, 7);
         x.write(0, 3, 7);
         Check.gave(x, x.tray(0, 1, 4));
+        Check.gave(x, x.read(0, 0), 0);
         Check.gave(x, x.read(0, 3), 0);
         Check.none(x, x.read(0, 4), 3);
         Check.gave(x, x.tray(0, 1, 5));
@@ -220,9 +222,35 @@ public final class TrayAndTextTest {
         Check.gave(x, x.told(8), 1);
         Check.gave(x, x.person(0, 4), 0);
         Check.none(x, x.live(0), 6);
+        courtAnew();
         courtTokens();
         courtFaults();
         courtLimits();
+    }
+
+    /** Nothing of an older COURT, taken or not, is left in a new one. */
+    private static void courtAnew() {
+        CatWitness x = new CatWitness();
+        String text = "smell a; smell b; smell c; sign d means guilty; sign e means clean; rule d guilty fed < 7 warm < 7 smells c; rule d;"
+            + " rule e; person f guilty fed 7 smells a b c; reader g slips 1 votes 9; word f guilty;";
+        for (int i = 0; i < 4; i++) {
+            Check.gave(x, Check.court(x, text), 1);
+            x.live(0);
+            Check.none(x, Check.court(x, text + "!"), 9);
+            Check.gave(x, Check.court(x, "sign a means nothing; rule a; person b;"), 1);
+            int[] due = {0, 1, 1, 1, 0, 0, 0, 0, 1, 0, 0, 0, 0};
+            for (int what = 0; what < due.length; what++) {
+                Check.gave(x, x.told(what), due[what]);
+            }
+            for (int what = 0; what < 5; what++) {
+                Check.gave(x, x.person(0, what), 0);
+            }
+            Check.gave(x, x.rule(0, 1), 0);
+            for (int what = 2; what < 5; what++) {
+                Check.none(x, x.rule(0, what), 6);
+            }
+            Check.gave(x, x.sense(0), 0);
+        }
     }
 
     private static void courtTokens() {
@@ -258,6 +286,9 @@ public final class TrayAndTextTest {
         for (String taken : ("smell sign means guilty clean nothing rule fed warm smells person reader slips votes word sit"
             + " feed rub wash night term any when shows held free loop end stop").split(" ")) {
             Check.courtFault("person " + taken + ";", 2, 7);
+            if (!"smell sign rule person reader word".contains(taken)) {
+                Check.courtFault(taken + " a;", 2, 0);
+            }
         }
         Check.courtFault("sign a;", 2, 6);
         Check.courtFault("sign a means;", 2, 12);
@@ -362,6 +393,10 @@ public final class TrayAndTextTest {
     }
 
     private static void weeksFaults(String court) {
+        for (String no : ("smell sign means guilty clean nothing rule fed warm smells person reader slips votes word shows held free"
+            + " end steps abcdefghij").split(" ")) {
+            Check.weeksFault(court, "any; " + no + " p;", 2, 5);
+        }
         Check.weeksFault(court, "sit", 2, 3);
         Check.weeksFault(court, "person p;", 2, 0);
         Check.weeksFault(court, "sit sit;", 2, 4);
