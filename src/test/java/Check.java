@@ -1,4 +1,4 @@
-/** What the promises' tests share: calls of a class's promiseN() methods, checks, texts. */
+/** What the tests of promises and of boundaries share: calls of a class's promiseN() or boundX() methods, checks, texts. */
 final class Check {
     private static int wrong = 0;
     private static int made = 0;
@@ -23,6 +23,34 @@ final class Check {
         }
         System.out.println(made + " checks, " + wrong + " wrong");
         if (wrong != 0) {
+            System.exit(1);
+        }
+    }
+
+    /** Runs all boundX() of a test, each of which must check something, and ends with 1 if a check failed. */
+    static void bounds(Class<?> test) {
+        java.lang.reflect.Method[] methods = test.getDeclaredMethods();
+        java.util.Arrays.sort(methods, java.util.Comparator.comparing(java.lang.reflect.Method::getName));
+        int ran = 0;
+        for (java.lang.reflect.Method method : methods) {
+            if (!method.getName().startsWith("bound")) {
+                continue;
+            }
+            ran++;
+            int before = made;
+            try {
+                method.invoke(null);
+            } catch (ReflectiveOperationException e) {
+                wrong++;
+                System.out.println(method.getName() + ": " + e + " " + e.getCause());
+            }
+            if (made == before) {
+                wrong++;
+                System.out.println(method.getName() + " has no check");
+            }
+        }
+        System.out.println(ran + " sentences, " + made + " checks, " + wrong + " wrong");
+        if (wrong != 0 || ran == 0) {
             System.exit(1);
         }
     }
@@ -111,6 +139,23 @@ final class Check {
             wrong++;
             System.out.println(where() + ": the text is not taken, FAULT " + x.fault(0) + " at " + x.fault(1));
         }
+        return x;
+    }
+
+    /** A COURT in which there were so many SITTINGS before a PERSON of such a NAME; WARM is 0. */
+    static CatWitness worn(String court, String person, int sittings) {
+        CatWitness x = with(court);
+        String sit = "sit " + person + ";";
+        int left = sittings;
+        weeks(x, "loop 99;" + sit.repeat(3) + "end; night;");
+        for (; left >= 297; left -= 297) {
+            x.live(0);
+        }
+        for (; left > 0; left -= Math.min(99, left)) {
+            weeks(x, "loop " + Math.min(99, left) + ";" + sit + "end; night;");
+            x.live(0);
+        }
+        gave(x, x.told(7), sittings);
         return x;
     }
 

@@ -503,7 +503,8 @@ public final class GameAndWeeksTest {
         for (int what = 0; what <= 12; what++) {
             sum = sum * 31 + x.told(what);
         }
-        for (int i = 0; i < 10; i++) {
+        // No more than these few: nothing is promised behind the 512th call.
+        for (int i = 0; i < 4; i++) {
             for (int what = 0; what < 5; what++) {
                 sum = sum * 31 + x.rule(i, what);
                 sum = sum * 31 + x.person(i, what);
