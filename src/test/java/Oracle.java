@@ -438,6 +438,11 @@ final class Oracle {
         });
     }
 
+    /** What told() counts of SMELLS (0) to WORDS (5), without a call. */
+    int countOf(int what) {
+        return List.of(s.smells, s.cues, s.rules, s.people, s.readers, s.words).get(what).size();
+    }
+
     private static void one(List<?> of, int i) { need(i >= 0 && i < of.size(), 1); }
 
     int sense(int cue) {
