@@ -958,6 +958,54 @@ public final class BoundaryCallTest {
 
     // ---- paragraph 5.
 
+    private interface Call {
+        Object on(CatWitness x);
+    }
+
+    /** Each call that has a STATUS, as it goes well on judged(). */
+    private static final Call[] GOING_WELL = {
+        x -> x.tray(0, 0, 3), x -> x.write(0, 0, 1), x -> x.read(0, 0), x -> x.pour(0, 0, 1, 0, 1), x -> x.court(0), x -> x.weeks(0),
+        x -> x.told(3), x -> x.sense(0), x -> x.rule(0, 0), x -> x.person(0, 0), x -> x.reader(0, 0), x -> x.word(0, 0),
+        x -> x.sit(0), x -> x.term(), x -> x.meal(0, 1), x -> x.scent(0, 0, true), x -> x.night(), x -> x.appeal(0), x -> x.blame(0, true),
+        x -> x.reread(0, 0), x -> x.enact(0, 0, 5), x -> x.repeal(0), x -> x.strain(0, 0),
+        x -> x.cue(0), x -> x.cueAt(0, 0), x -> x.bears(0), x -> x.bearing(0), x -> x.shown(0), x -> x.freeIn(1), x -> x.judgedIn(2),
+        x -> x.fits(0, 1), x -> x.sure(0, 0, 1), x -> x.odds(0, 0, 1), x -> x.ask(0, 0, 0), x -> x.least(0, 0), x -> x.leastBy(0, 0, 0),
+        x -> x.reach(0), x -> x.idle(), x -> x.tells(0), x -> x.mute(), x -> x.verdict(1), x -> x.sworn(1), x -> x.power(0),
+        x -> x.clash(), x -> x.struck(), x -> x.struckSet(), x -> x.best(), x -> x.bestAt(0), x -> x.game(1), x -> x.moveOf(1, 0),
+        x -> x.copyFed(0), x -> x.live(0), x -> x.lived(0), x -> x.mean(0, 1), x -> x.mark(), x -> x.undo()};
+
+    /** PEOPLE who are FREE, HELD, and one who WAITS, WARM, TRAYS, WEEKS, a MARK: there is all that calls could ask. */
+    private static CatWitness judged() {
+        CatWitness x = Check.with("smell s; sign c means clean; sign d means guilty; rule c clean; rule d guilty; person p; person q guilty; person r;"
+            + " reader v slips 3 votes 4; word p clean;");
+        x.mark();
+        Check.weeks(x, "any;");
+        x.live(0);
+        x.term();
+        x.appeal(2);
+        x.tray(0, 0, 3);
+        x.tray(1, 0, 1);
+        return x;
+    }
+
+    /** "0 else": with each call that goes well, whatever the one ahead left. */
+    static void boundStatus0Else() {
+        // Of the 61 methods five have no STATUS.
+        Check.is(GOING_WELL.length, 61 - 5);
+        Call[] refusals = {x -> x.told(-1), x -> x.read(2, 0), x -> x.read(1, 1), x -> x.blame(1, true)};
+        int[] statuses = {1, 2, 3, 7};
+        for (Call call : GOING_WELL) {
+            for (int i = 0; i < refusals.length; i++) {
+                CatWitness x = judged();
+                refusals[i].on(x);
+                Check.is(x.status(), statuses[i]);
+                Object got = call.on(x);
+                Check.is(x.status(), 0);
+                Check.is(got.equals(false) || got.equals(-1) || got.equals(-1L), false);
+            }
+        }
+    }
+
     /** "STATUS of a call is the first of these that holds": 1 ahead of all that could hold with it. */
     static void boundFirstStatusThatHolds() {
         CatWitness x = Check.with("smell s; sign c means clean; person p fed 99;");

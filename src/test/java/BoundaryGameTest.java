@@ -149,6 +149,66 @@ public final class BoundaryGameTest {
         Check.gave(x, x.fits(1, 1), 64);
     }
 
+    /** "(FED, SMELLS as they are)": as they are now, be they other than a call ago, or than in a TERM, a GAME, a life only reckoned. */
+    static void boundFedAndSmellsAsTheyAre() {
+        for (int guilty = 0; guilty < 2; guilty++) {
+            CatWitness x = Check.with("smell s; smell t; sign c means clean; rule c " + (guilty == 1 ? "guilty" : "clean") + " fed > 4 smells t;"
+                + " person p fed 4 smells t; person q fed 9 smells s;");
+            threes(x, 0, 0, 0, 0, 1, 0, 0);
+            fit(x, 1, 0, guilty);
+            Check.gave(x, x.ask(0, 0, 0), 0);
+            x.meal(0, 1);
+            fit(x, 1, 2, guilty);
+            fit(x, 2, 0, guilty);
+            Check.gave(x, x.ask(0, 1, 0), 0);
+            x.game(2);
+            x.scent(1, 1, true);
+            fit(x, 1, 2, guilty);
+            fit(x, 2, 1, guilty);
+            Check.gave(x, x.ask(0, 1, 0), 1);
+            x.mark();
+            x.scent(0, 1, false);
+            fit(x, 1, 0, guilty);
+            Check.gave(x, x.ask(0, 0, 0), 1);
+            x.undo();
+            fit(x, 2, 1, guilty);
+            Check.gave(x, x.ask(0, 0, 0), 0);
+            Check.weeks(x, "wash p t; feed q 9;");
+            x.mean(0, 1);
+            fit(x, 2, 1, guilty);
+            x.live(0);
+            fit(x, 1, 0, guilty);
+            // What was not SHOWN of him tells the other guilt; the last one alone is left to be asked.
+            CatWitness y = Check.with("smell s; smell t; sign c means clean; rule c " + (guilty == 1 ? "guilty" : "clean") + " fed = 7 warm = 9 smells t;"
+                + " person p fed 7 smells s; person q fed 6 smells s t; person r fed 7 smells s t; person u fed 7 smells t;");
+            threes(y, 0, 0, 9, 1, 1, 9, 1, 2, 9, 1, 3, 9, 0);
+            int[] ways = {16, 16, 16, 8, 4};
+            for (int n = 0; n <= 4; n++) {
+                Check.gave(y, y.fits(0, n), ways[n]);
+                Check.gave(y, y.ask(0, n, 0), n < 3 ? 2 : n < 4 ? 3 : 0);
+                Check.gave(y, y.ask(0, n, 1), n < 4 ? 9 : 0);
+            }
+            Check.gave(y, y.sure(2, 0, 4), 1 - guilty);
+            Check.gave(y, y.sure(3, 0, 4), guilty);
+            Check.none(y, y.sure(0, 0, 4), 6);
+            Check.told(y, y.odds(1, 0, 4), 1, 2);
+        }
+    }
+
+    /** By the first n threes there are so many ways; in all of them each of the first n PEOPLE is GUILTY, or in none. */
+    private static void fit(CatWitness x, int n, int ways, int guilty) {
+        Check.gave(x, x.fits(0, n), ways);
+        for (int p = 0; p < n; p++) {
+            if (ways > 0) {
+                Check.gave(x, x.sure(p, 0, n), guilty);
+                Check.told(x, x.odds(p, 0, n), guilty, 1);
+            } else {
+                Check.none(x, x.sure(p, 0, n), 6);
+                Check.none(x, x.odds(p, 0, n), 6);
+            }
+        }
+    }
+
     /** Promise 38: "1 if a PERSON is GUILTY in all these ways, 0 if in none of them (... 6: neither, or there are none)". */
     static void boundSureOfAllOrNone() {
         CatWitness x = Check.with(GUILT);
@@ -312,6 +372,44 @@ public final class BoundaryGameTest {
             Check.none(x, x.reach(odd), 1);
             Check.none(x, x.tells(odd), 1);
         }
+    }
+
+    /** "REACH of a RULE: in how many WORLDS it is the first that bears": those that ask a SMELL halve what is left. */
+    static void boundReachOfSmells() {
+        CatWitness x = Check.with("smell a; smell b; smell d; smell e; smell f; sign c means clean; sign g means guilty;"
+            + " rule c smells f; rule g smells a; rule c smells d; rule c smells f; rule g smells a; rule c smells b; rule g guilty smells e; rule c smells d;");
+        int[] due = {6720, 3360, 1680, 0, 0, 840, 210, 0};
+        for (int r = 0; r < due.length; r++) {
+            Check.gave(x, x.reach(r), due[r]);
+        }
+        Check.gave(x, x.idle(), 8 + 16 + 128);
+        Check.gave(x, x.mute(), 630);
+        Check.told(x, x.tells(0), 1, 2);
+        Check.told(x, x.tells(1), (1680 + 210) / 210, (3360 + 210) / 210);
+        // One that bears but at times takes the SMELL from those behind it at these times alone.
+        CatWitness y = Check.with("smell a; smell b; sign c means clean; rule c warm < 3 smells a; rule c fed > 10 smells b; rule c smells a; rule c clean; rule c smells b; rule c;");
+        for (int r = 0; r < 6; r++) {
+            Check.gave(y, y.reach(r), worlds(r));
+        }
+        Check.gave(y, y.mute(), 0);
+    }
+
+    /** By going through all of them: in how many WORLDS a RULE of the second COURT ahead is the first. */
+    private static int worlds(int rule) {
+        int sum = 0;
+        for (int world = 0; world < 2 * 21 * 10 * 4; world++) {
+            boolean guilty = world % 2 == 1;
+            int fed = world / 2 % 21;
+            int warm = world / 42 % 10;
+            int smells = world / 420;
+            boolean[] bears = {warm < 3 && smells % 2 == 1, fed > 10 && smells / 2 == 1, smells % 2 == 1, !guilty, smells / 2 == 1, true};
+            int first = 0;
+            while (!bears[first]) {
+                first++;
+            }
+            sum += first == rule ? 1 : 0;
+        }
+        return sum;
     }
 
     /** Promise 44: "The set of RULES with REACH 0": all of eight, or none. */
@@ -668,6 +766,39 @@ public final class BoundaryGameTest {
         Check.gave(x, x.game(1), 1);
     }
 
+    /** "how many have a CUE SHOWN before them then that means clean, less how many that means guilty, by best play": from -6 to 6. */
+    static void boundGamesFromMinus6To6() {
+        String signs = "sign c means clean; sign d means guilty; sign e means nothing; ";
+        // A SMELL turns what is SHOWN.
+        for (int smelling = 0; smelling <= 6; smelling++) {
+            String people = "";
+            for (int p = 0; p < 6; p++) {
+                people += "person " + "abfghi".charAt(p) + (p < smelling ? " smells s;" : ";");
+            }
+            CatWitness x = Check.with("smell s;" + signs + "rule c smells s; rule d; " + people);
+            int value = 2 * smelling - 6;
+            int up = Math.min(6, value + 2);
+            games(x, value, up, up - 2, up);
+            x = Check.with("smell s;" + signs + "rule d smells s; rule c; " + people);
+            up = Math.min(6, 2 - value);
+            games(x, -value, up, up - 2, up);
+            // A FEEDING alone turns it, and never back.
+            x = Check.with(signs + "rule c fed = 0; rule e fed = 1; rule d; person a; person b; person f; person g; person h; person i;");
+            for (int p = 0; p < smelling; p++) {
+                x.meal(p, 1);
+            }
+            value = 6 - smelling;
+            games(x, value, value, value - 1, value - 1);
+            Check.none(x, x.moveOf(1, 0), 6);
+        }
+    }
+
+    private static void games(CatWitness x, int... due) {
+        for (int turns = 0; turns < due.length; turns++) {
+            Check.gave(x, x.game(turns), due[turns]);
+        }
+    }
+
     /** "GAME" of all six with all five SMELLS ends, too, and changes nothing. */
     static void boundGameOfAll() {
         String court = "smell a; smell b; smell d; smell e; smell f; sign yes means clean; sign no means guilty;"
@@ -809,6 +940,36 @@ public final class BoundaryGameTest {
         Check.gave(x, x.person(0, 0), 99);
     }
 
+    /** "feed NAME NUMBER ; or rub NAME NAME ; or wash NAME NAME": of that PERSON, that SMELL alone, whichever STEP it is. */
+    static void boundStepsOfEachPerson() {
+        String court = "smell a; smell b; smell d; smell e; smell f; person u; person v; person w; person x; person y; person z;";
+        String[] people = "u v w x y z".split(" ");
+        String[] smells = "a b d e f".split(" ");
+        for (int p = 0; p < people.length; p++) {
+            for (int s = 0; s < smells.length; s++) {
+                CatWitness x = Check.with(court);
+                String both = people[p] + " " + smells[s] + ";";
+                Check.weeks(x, "feed " + people[p] + " " + (s + 1) + "; sit " + people[p] + "; rub " + both);
+                Check.gave(x, x.live(0), 3);
+                lived(x, 0, 1, 0, 0, 0);
+                for (int q = 0; q < people.length; q++) {
+                    Check.gave(x, x.person(q, 0), q == p ? s + 1 : 0);
+                    Check.gave(x, x.person(q, 1), q == p ? 1 << s : 0);
+                    Check.gave(x, x.person(q, 4), q == p ? 1 : 0);
+                    for (int t = 0; t < smells.length; t++) {
+                        x.scent(q, t, true);
+                    }
+                }
+                Check.weeks(x, "night; night; wash " + both);
+                Check.gave(x, x.live(0), 3);
+                lived(x, 1, 0, 0, 0, 0);
+                for (int q = 0; q < people.length; q++) {
+                    Check.gave(x, x.person(q, 1), q == p ? 31 - (1 << s) : 31);
+                }
+            }
+        }
+    }
+
     /** "a TERM in which nobody WAITS". */
     static void boundMissedTermOfNobody() {
         CatWitness x = Check.with("sign c means clean; sign d means guilty; rule d guilty; rule c; person p; person q guilty;");
@@ -937,6 +1098,21 @@ public final class BoundaryGameTest {
             x.live(0);
             Check.gave(x, x.told(6), behind[i] ? 3 : 0);
         }
+        // What would be SHOWN at the WARM that it is then, of the FED, SMELLS and guilt that he has then.
+        for (int warm = 0; warm <= 9; warm++) {
+            CatWitness x = Check.with("sign c means clean; sign d means clean; rule c warm = " + warm + "; rule d warm > " + warm + "; person p; person q;");
+            Check.weeks(x, "loop 12; when shows q c; feed p 1; end; when shows q d; feed q 1; end; sit p; end;");
+            x.live(0);
+            Check.gave(x, x.person(0, 0), warm == 9 ? 3 : 1);
+            Check.gave(x, x.person(1, 0), 11 - warm - (warm == 9 ? 2 : 0));
+        }
+        CatWitness y = Check.with("smell s; smell t; sign c means clean; rule c guilty fed > 2 smells t; person p guilty smells s;");
+        Check.weeks(y, "loop 5; feed p 1; when shows p c; sit p; end; end; rub p t; when shows p c; sit p; end; wash p t; when shows p c; sit p; end; rub p t;");
+        y.live(0);
+        Check.gave(y, y.person(0, 4), 1);
+        y.blame(0, false);
+        Check.weeks(y, "when shows p c; sit p; end;");
+        Check.gave(y, y.live(0), 1);
         String[] compares = {"<", "=", ">"};
         for (int k = 0; k < 3; k++) {
             for (int number = 0; number <= 9; number++) {

@@ -1,3 +1,6 @@
+import java.util.ArrayList;
+import java.util.List;
+
 /**
  * The boundary cases that "Terms" and paragraph 4 of the document name: TOKENS, COURTS, WEEKS and
  * their FAULTS. Each method tests one sentence, or one clause of it, which stands above it.
@@ -402,6 +405,69 @@ public final class BoundaryTextTest {
         Check.weeksFault(AHEAD, "sit 12345;", 1, 4);
     }
 
+    /** What can stand behind each beginning of a PART; NAME: any WORD of 1 to 8 letters that is none of those told. */
+    private static final String[][] IN_A_COURT = {
+        {"", "smell sign rule person reader word"},
+        {"smell", "NAME"}, {"smell zz", ";"},
+        {"sign", "NAME"}, {"sign zz", "means"}, {"sign zz means", "guilty clean nothing"}, {"sign zz means nothing", ";"},
+        {"rule", "NAME"}, {"rule c", "guilty clean fed warm smells ;"}, {"rule c clean", "fed warm smells ;"},
+        {"rule c fed", "< > ="}, {"rule c fed <", "NUMBER"}, {"rule c fed < 1", "warm smells ;"},
+        {"rule c warm", "< > ="}, {"rule c warm >", "NUMBER"}, {"rule c warm > 1", "smells ;"},
+        {"rule c smells", "NAME"}, {"rule c smells s", ";"}, {"rule c guilty fed = 1 warm = 1", "smells ;"},
+        {"person", "NAME"}, {"person zz", "guilty fed smells ;"}, {"person zz guilty", "fed smells ;"},
+        {"person zz fed", "NUMBER"}, {"person zz fed 1", "smells ;"}, {"person zz smells", "NAME ;"}, {"person zz smells s", "NAME ;"},
+        {"reader", "NAME"}, {"reader zz", "slips"}, {"reader zz slips", "NUMBER"}, {"reader zz slips 1", "votes"},
+        {"reader zz slips 1 votes", "NUMBER"}, {"reader zz slips 1 votes 1", ";"},
+        {"word", "NAME"}, {"word p", "guilty clean"}, {"word p guilty", ";"}};
+    private static final String[][] IN_WEEKS = {
+        {"", "sit term feed rub wash night any when loop stop"},
+        {"loop 1;", "sit term feed rub wash night any when loop stop end"}, {"loop 1; end", ";"},
+        {"when held p; any;", "sit term feed rub wash night any when loop stop end"},
+        {"sit", "NAME"}, {"sit p", ";"}, {"term", ";"}, {"feed", "NAME"}, {"feed p", "NUMBER"}, {"feed p 1", ";"},
+        {"rub", "NAME"}, {"rub p", "NAME"}, {"rub p s", ";"}, {"wash", "NAME"}, {"wash p", "NAME"}, {"wash p s", ";"},
+        {"night", ";"}, {"any", ";"}, {"stop", ";"},
+        {"when", "shows held free warm"}, {"when shows", "NAME"}, {"when shows p", "NAME"}, {"when shows p c", ";"},
+        {"when held", "NAME"}, {"when held p", ";"}, {"when free", "NAME"}, {"when free p", ";"},
+        {"when warm", "< > ="}, {"when warm <", "NUMBER"}, {"when warm < 1", ";"}, {"loop", "NUMBER"}, {"loop 1", ";"}};
+
+    /** FAULT "2 it can't stand there": each TOKEN behind each beginning of a PART, of a STEP. */
+    static void boundEachTokenAtEachPlace() {
+        for (String[] row : IN_A_COURT) {
+            eachToken(row, false);
+        }
+        for (String[] row : IN_WEEKS) {
+            eachToken(row, true);
+        }
+    }
+
+    private static void eachToken(String[] row, boolean ofWeeks) {
+        List<String> canStand = List.of(row[1].split(" "));
+        List<String> tokens = new ArrayList<>(List.of(RESERVED));
+        tokens.addAll(List.of("; < > = 1 0 9999 s c p r zz abcdefgh abcdefghi ! A 12345".split(" ")));
+        String ahead = (ofWeeks ? "" : AHEAD) + row[0] + " ";
+        for (String token : tokens) {
+            boolean isName = token.matches("[a-z]{1,8}") && !List.of(RESERVED).contains(token);
+            String kind = isName ? "NAME" : token.matches("[0-9]{1,4}") ? "NUMBER" : token;
+            if (!canStand.contains(kind)) {
+                int fault = token.matches("[!A]|12345") ? 1 : 2;
+                if (ofWeeks) {
+                    Check.weeksFault(AHEAD, ahead + token, fault, ahead.length());
+                } else {
+                    Check.courtFault(ahead + token, fault, ahead.length());
+                }
+                continue;
+            }
+            CatWitness x = Check.with(AHEAD);
+            if (ofWeeks) {
+                Check.weeks(x, ahead + token);
+            } else {
+                Check.court(x, ahead + token);
+            }
+            boolean refused = x.status() == 9 && x.fault(1) == ahead.length();
+            Check.is(refused && (x.fault(0) == 1 || x.fault(0) == 2), false);
+        }
+    }
+
     /** FAULT "2 it can't stand there (the end: the text's length)". */
     static void boundEndOfTheText() {
         String[] parts = {"smell a;", "sign b means nothing;", "rule c guilty fed < 1 warm > 2 smells s;", "person d guilty fed 3 smells s;",
@@ -542,6 +608,7 @@ public final class BoundaryTextTest {
         }
         Check.gave(x, x.person(0, 2), 1);
         Check.gave(x, x.rule(0, 3), 0);
+        Check.told(x, x.mean(1, 1), 1, 1);
         Check.gave(x, x.live(1), 2);
         Check.gave(x, Check.weeks(x, "sit q; rub p s;"), 2);
     }
@@ -679,6 +746,7 @@ public final class BoundaryTextTest {
         Check.none(x, x.live(0), 6);
         Check.gave(x, Check.weeks(x, "night; sit p; feed p 3;"), 3);
         Check.none(x, Check.weeks(x, "any; any; any; any; end;"), 9);
+        Check.told(x, x.mean(0, 20), 3, 1);
         Check.gave(x, x.live(0), 3);
         Check.gave(x, x.person(0, 0), 3);
         Check.gave(x, x.person(0, 4), 1);
